@@ -1,0 +1,104 @@
+import java.io.IOException;
+import java.lang.reflect.Constructor;
+import java.lang.reflect.Field;
+import java.lang.reflect.Method;
+import java.lang.reflect.Modifier;
+import java.nio.file.Files;
+import java.nio.file.Path;
+import java.util.ArrayList;
+import java.util.List;
+import java.util.TreeSet;
+
+/** The document's face and no other member, and what LANGUAGE.md lets be seen from outside. */
+public final class FaceTest {
+    private static final String[] FACE = {
+        "public void clear()",
+        "public int classOf(int,int,int) throws IndexOutOfBoundsException",
+        "public int count(int) throws IndexOutOfBoundsException",
+        "public int fault(int,int) throws IndexOutOfBoundsException",
+        "public int faults()",
+        "public int gate(int,int,int) throws IndexOutOfBoundsException,IllegalStateException,IllegalArgumentException",
+        "public int input() throws IllegalStateException",
+        "public int left(int) throws IndexOutOfBoundsException",
+        "public int output(int) throws IndexOutOfBoundsException,IllegalStateException",
+        "public int pattern(int) throws IndexOutOfBoundsException",
+        "public void reset()",
+        "public int run()",
+        "public int shown(int) throws IndexOutOfBoundsException",
+        "public boolean shows(int,int) throws IndexOutOfBoundsException",
+        "public int simulate(int)",
+        "public int slow(int,int,int) throws IndexOutOfBoundsException",
+        "public int test(int) throws IndexOutOfBoundsException",
+        "public int value(int,int) throws IndexOutOfBoundsException"
+    };
+    private static final String[] NOT_IN_THE_SOURCE = {
+        "->", "::", "import ", "package ", "catch", "finally", "synchronized", "assert", "static {", "System.out",
+        "currentTime", "nanoTime", "Thread", "Random", "hashCode", "Exact"
+    };
+
+    private static final Check CHECK = new Check("FaceTest");
+
+    private FaceTest() {
+    }
+
+    private static String plain(Object member) {
+        return member.toString().replace("java.lang.", "").replace("FaultSearch.", "");
+    }
+
+    private static void members() {
+        Class<FaultSearch> face = FaultSearch.class;
+        CHECK.same("the class", Modifier.toString(face.getModifiers()), "public final");
+        List<String> seen = new ArrayList<>();
+        TreeSet<String> names = new TreeSet<>();
+        for (Method method : face.getDeclaredMethods()) {
+            if (!Modifier.isPrivate(method.getModifiers())) {
+                seen.add(plain(method));
+                names.add(method.getName());
+            }
+        }
+        CHECK.same("methods", new TreeSet<>(seen).toString(), new TreeSet<>(List.of(FACE)).toString());
+        for (Constructor<?> constructor : face.getDeclaredConstructors()) {
+            CHECK.same("constructor", plain(constructor), "public FaultSearch()");
+        }
+        for (Field field : face.getDeclaredFields()) {
+            if (!Modifier.isPrivate(field.getModifiers())) {
+                CHECK.same("field", plain(field), "public static final int NONE");
+            }
+            CHECK.is(field + " final if static", fits(field), true);
+        }
+        privateNames(face, names);
+    }
+
+    private static boolean fits(Field field) {
+        return !Modifier.isStatic(field.getModifiers()) || Modifier.isFinal(field.getModifiers());
+    }
+
+    private static void privateNames(Class<?> face, TreeSet<String> names) {
+        for (Method method : face.getDeclaredMethods()) {
+            if (Modifier.isPrivate(method.getModifiers())) {
+                CHECK.is(method + " has a name of the face", names.contains(method.getName()), false);
+            }
+        }
+        for (Class<?> inside : face.getDeclaredClasses()) {
+            CHECK.is(inside + " is static", Modifier.isStatic(inside.getModifiers()), true);
+            CHECK.is(inside + " is not public", Modifier.isPublic(inside.getModifiers()), false);
+            CHECK.is(inside + " has some twenty fields", inside.getDeclaredFields().length <= 20, true);
+            for (Method method : inside.getDeclaredMethods()) {
+                CHECK.is(method + " has a name of the face", names.contains(method.getName()), false);
+            }
+        }
+    }
+
+    private static void source(Path path) throws IOException {
+        String text = Files.readString(path);
+        for (String word : NOT_IN_THE_SOURCE) {
+            CHECK.is("'" + word + "' in the source", text.contains(word), false);
+        }
+    }
+
+    public static void main(String[] args) throws IOException {
+        members();
+        source(Path.of(args.length > 0 ? args[0] : "src/main/java/FaultSearch.java"));
+        CHECK.end();
+    }
+}
