@@ -1,3 +1,6 @@
+import java.lang.reflect.InvocationTargetException;
+import java.lang.reflect.Method;
+import java.util.Arrays;
 import java.util.Random;
 
 /** Runs of calls drawn from fixed seeds, FaultSearch's answers held against Model's. */
@@ -6,9 +9,9 @@ public final class ModelTest {
     private static final int[] EDGES = {
         -2, -1, 0, 1, 2, 5, 6, 7, 10, 12, 99, 100, 101, 1023, 1024, Integer.MAX_VALUE, Integer.MIN_VALUE
     };
-    private static final String[] NAMES = {
-        "input", "gate", "output", "value", "faults", "fault", "classOf", "test", "shows", "shown", "run",
-        "pattern", "simulate", "left", "reset", "slow", "count", "clear"
+    private static final String[] ASKING = {
+        "value", "faults", "fault", "classOf", "test", "shows", "shown", "run", "pattern", "simulate", "left", "reset",
+        "slow", "count", "clear"
     };
 
     private final Check check;
@@ -23,67 +26,28 @@ public final class ModelTest {
         this.random = new Random(seed);
     }
 
-    private static String told(RuntimeException e) {
-        return "throws." + e.getClass().getSimpleName();
+    private static Method method(Class<?> of, String name) {
+        for (Method method : of.getDeclaredMethods()) {
+            if (method.getName().equals(name)) {
+                return method;
+            }
+        }
+        throw new AssertionError(of + " has no " + name);
     }
 
-    private static String ofSearch(FaultSearch x, int op, int a, int b, int c) {
+    private static String answer(Object x, String name, Object[] args) {
         try {
-            switch (op) {
-                case 0: return "" + x.input();
-                case 1: return "" + x.gate(a, b, c);
-                case 2: return "" + x.output(a);
-                case 3: return "" + x.value(a, b);
-                case 4: return "" + x.faults();
-                case 5: return "" + x.fault(a, b);
-                case 6: return "" + x.classOf(a, b, c);
-                case 7: return "" + x.test(a);
-                case 8: return "" + x.shows(a, b);
-                case 9: return "" + x.shown(a);
-                case 10: return "" + x.run();
-                case 11: return "" + x.pattern(a);
-                case 12: return "" + x.simulate(a);
-                case 13: return "" + x.left(a);
-                case 14: x.reset(); return "done";
-                case 15: return "" + x.slow(a, b, c);
-                case 16: return "" + x.count(a);
-                default: x.clear(); return "done";
-            }
-        } catch (RuntimeException e) {
-            return told(e);
+            return String.valueOf(method(x.getClass(), name).invoke(x, args));
+        } catch (InvocationTargetException e) {
+            return "throws." + e.getCause().getClass().getSimpleName();
+        } catch (IllegalAccessException e) {
+            throw new AssertionError(e);
         }
     }
 
-    private static String ofModel(Model x, int op, int a, int b, int c) {
-        try {
-            switch (op) {
-                case 0: return "" + x.input();
-                case 1: return "" + x.gate(a, b, c);
-                case 2: return "" + x.output(a);
-                case 3: return "" + x.value(a, b);
-                case 4: return "" + x.faults();
-                case 5: return "" + x.fault(a, b);
-                case 6: return "" + x.classOf(a, b, c);
-                case 7: return "" + x.test(a);
-                case 8: return "" + x.shows(a, b);
-                case 9: return "" + x.shown(a);
-                case 10: return "" + x.run();
-                case 11: return "" + x.pattern(a);
-                case 12: return "" + x.simulate(a);
-                case 13: return "" + x.left(a);
-                case 14: x.reset(); return "done";
-                case 15: return "" + x.slow(a, b, c);
-                case 16: return "" + x.count(a);
-                default: x.clear(); return "done";
-            }
-        } catch (RuntimeException e) {
-            return told(e);
-        }
-    }
-
-    private void call(int op, int a, int b, int c) {
-        String name = title + " " + NAMES[op] + "(" + a + ", " + b + ", " + c + ")";
-        check.same(name, ofSearch(search, op, a, b, c), ofModel(model, op, a, b, c));
+    private void call(String name, Object... args) {
+        String got = answer(search, name, args);
+        check.same(title + " " + name + Arrays.toString(args), got, answer(model, name, args));
     }
 
     /** Mostly below the bound, now and then an edge. */
@@ -103,11 +67,11 @@ public final class ModelTest {
     private void grow() {
         int choice = random.nextInt(8);
         if (choice == 0) {
-            call(0, 0, 0, 0);
+            call("input");
         } else if (choice == 1) {
-            call(2, drawNet(), 0, 0);
+            call("output", drawNet());
         } else {
-            call(1, draw(7), drawNet(), drawNet());
+            call("gate", draw(7), drawNet(), drawNet());
         }
     }
 
@@ -115,59 +79,58 @@ public final class ModelTest {
         int k = draw(model.faults() + 1);
         int assignment = random.nextInt(4) == 0 ? random.nextInt() : draw(1 << model.count(1));
         int bit = draw(2);
-        int op = 3 + random.nextInt(15);
-        switch (op) {
-            case 3 -> call(op, drawNet(), assignment, 0);
-            case 5 -> call(op, k, draw(4), 0);
-            case 6 -> call(op, drawNet(), draw(3) - 1, bit);
-            case 7, 9 -> call(op, k, 0, 0);
-            case 8 -> call(op, assignment, k, 0);
-            case 11, 13 -> call(op, draw(6), 0, 0);
-            case 12 -> call(op, assignment, 0, 0);
-            case 15 -> call(op, drawNet(), bit, draw(2));
-            case 16 -> call(op, draw(6), 0, 0);
-            case 17 -> call(random.nextInt(12) == 0 ? 17 : 10, 0, 0, 0);
-            default -> call(op, 0, 0, 0);
+        String name = ASKING[random.nextInt(ASKING.length)];
+        switch (name) {
+            case "value" -> call(name, drawNet(), assignment);
+            case "fault" -> call(name, k, draw(4));
+            case "classOf" -> call(name, drawNet(), draw(3) - 1, bit);
+            case "test", "shown" -> call(name, k);
+            case "shows" -> call(name, assignment, k);
+            case "pattern", "left", "count" -> call(name, draw(6));
+            case "simulate" -> call(name, assignment);
+            case "slow" -> call(name, drawNet(), bit, draw(2));
+            case "clear" -> call(random.nextInt(12) == 0 ? name : "run");
+            default -> call(name);
         }
     }
 
     /** All that the class tells of the chip as it stands. */
     private void askAll() {
-        call(4, 0, 0, 0);
+        call("faults");
         for (int k = 0; k < model.faults(); k++) {
             for (int what = 0; what < 4; what++) {
-                call(5, k, what, 0);
+                call("fault", k, what);
             }
-            call(7, k, 0, 0);
-            call(9, k, 0, 0);
-            call(8, random.nextInt(), k, 0);
+            call("test", k);
+            call("shown", k);
+            call("shows", random.nextInt(), k);
         }
         for (int net = 0; net < model.count(0); net++) {
             for (int v = 0; v < 2; v++) {
                 for (int pin = -1; pin < 3; pin++) {
-                    call(6, net, pin, v);
+                    call("classOf", net, pin, v);
                 }
-                call(15, net, v, 0);
-                call(15, net, v, 1);
+                call("slow", net, v, 0);
+                call("slow", net, v, 1);
             }
         }
-        call(12, random.nextInt(), 0, 0);
-        call(10, 0, 0, 0);
+        call("simulate", random.nextInt());
+        call("run");
         for (int what = 0; what < 6; what++) {
-            call(16, what, 0, 0);
+            call("count", what);
         }
         for (int i = 0; i <= model.count(4); i++) {
-            call(11, i, 0, 0);
+            call("pattern", i);
         }
         for (int i = 0; i < 8; i++) {
-            call(13, i, 0, 0);
+            call("left", i);
         }
     }
 
     private void mixed() {
         int inputs = random.nextInt(5);
         for (int i = 0; i < inputs; i++) {
-            call(0, 0, 0, 0);
+            call("input");
         }
         // The share of growing calls differs: some chips stay small and are asked much.
         int share = 2 + random.nextInt(5);
@@ -182,13 +145,13 @@ public final class ModelTest {
 
     private void big(int inputs, int nets, int outputs) {
         for (int i = 0; i < inputs; i++) {
-            call(0, 0, 0, 0);
+            call("input");
         }
         for (int i = inputs; i < nets; i++) {
-            call(1, random.nextInt(7), drawNet(), drawNet());
+            call("gate", random.nextInt(7), drawNet(), drawNet());
         }
         for (int i = 0; i < outputs; i++) {
-            call(2, drawNet(), 0, 0);
+            call("output", drawNet());
         }
         askAll();
     }
