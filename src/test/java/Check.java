@@ -3,11 +3,17 @@ final class Check {
     private static final int MOST_PRINTED = 50;
 
     private final String title;
+    private String sentence = "";
     private int done;
     private int wrong;
 
     Check(String title) {
         this.title = title;
+    }
+
+    /** Names the words of the document that the answers from here on are due by. */
+    void about(String words) {
+        sentence = " [" + words + "]";
     }
 
     void is(String call, long got, long want) {
@@ -23,7 +29,7 @@ final class Check {
         if (!got.equals(want)) {
             wrong++;
             if (wrong <= MOST_PRINTED) {
-                System.out.println(title + ": " + call + " answered " + got + ", due is " + want);
+                System.out.println(title + sentence + ": " + call + " answered " + got + ", due is " + want);
             }
         }
     }

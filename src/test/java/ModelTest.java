@@ -1,10 +1,13 @@
 import java.lang.reflect.InvocationTargetException;
 import java.lang.reflect.Method;
+import java.util.ArrayList;
 import java.util.Arrays;
+import java.util.List;
 import java.util.Random;
 
 /** Runs of calls drawn from fixed seeds, FaultSearch's answers held against Model's. */
 public final class ModelTest {
+    /** Behind the 512th call of an object nothing is promised. */
     private static final int CALLS = 512;
     private static final int[] EDGES = {
         -2, -1, 0, 1, 2, 5, 6, 7, 10, 12, 99, 100, 101, 1023, 1024, Integer.MAX_VALUE, Integer.MIN_VALUE
@@ -14,11 +17,16 @@ public final class ModelTest {
         "slow", "count", "clear"
     };
 
+    private record Call(String name, Object... args) {
+    }
+
     private final Check check;
     private final Random random;
-    private final FaultSearch search = new FaultSearch();
     private final Model model = new Model();
     private final String title;
+    private final List<Call> building = new ArrayList<>();
+    private FaultSearch search = new FaultSearch();
+    private int calls;
 
     private ModelTest(Check check, String title, long seed) {
         this.check = check;
@@ -46,8 +54,28 @@ public final class ModelTest {
     }
 
     private void call(String name, Object... args) {
+        calls++;
+        if (calls > CALLS) {
+            throw new AssertionError(title + " calls too often");
+        }
         String got = answer(search, name, args);
         check.same(title + " " + name + Arrays.toString(args), got, answer(model, name, args));
+    }
+
+    private void build(String name, Object... args) {
+        call(name, args);
+        building.add(new Call(name, args));
+    }
+
+    /** Takes a new object of the same chip where the old one has no room for so many calls. */
+    private void makeRoomFor(int more) {
+        if (calls + more > CALLS) {
+            search = new FaultSearch();
+            calls = building.size();
+            for (Call call : building) {
+                answer(search, call.name, call.args);
+            }
+        }
     }
 
     /** Mostly below the bound, now and then an edge. */
@@ -96,24 +124,16 @@ public final class ModelTest {
 
     /** All that the class tells of the chip as it stands. */
     private void askAll() {
+        makeRoomFor(1);
         call("faults");
         for (int k = 0; k < model.faults(); k++) {
-            for (int what = 0; what < 4; what++) {
-                call("fault", k, what);
-            }
-            call("test", k);
-            call("shown", k);
-            call("shows", random.nextInt(), k);
+            askClass(k);
         }
         for (int net = 0; net < model.count(0); net++) {
-            for (int v = 0; v < 2; v++) {
-                for (int pin = -1; pin < 3; pin++) {
-                    call("classOf", net, pin, v);
-                }
-                call("slow", net, v, 0);
-                call("slow", net, v, 1);
-            }
+            askNet(net);
         }
+        // So many that it is a new object, whose classes have been asked for by nothing yet.
+        makeRoomFor(CALLS - building.size());
         call("simulate", random.nextInt());
         call("run");
         for (int what = 0; what < 6; what++) {
@@ -124,6 +144,27 @@ public final class ModelTest {
         }
         for (int i = 0; i < 8; i++) {
             call("left", i);
+        }
+    }
+
+    private void askClass(int k) {
+        makeRoomFor(7);
+        for (int what = 0; what < 4; what++) {
+            call("fault", k, what);
+        }
+        call("test", k);
+        call("shown", k);
+        call("shows", random.nextInt(), k);
+    }
+
+    private void askNet(int net) {
+        makeRoomFor(12);
+        for (int v = 0; v < 2; v++) {
+            for (int pin = -1; pin < 3; pin++) {
+                call("classOf", net, pin, v);
+            }
+            call("slow", net, v, 0);
+            call("slow", net, v, 1);
         }
     }
 
@@ -145,13 +186,13 @@ public final class ModelTest {
 
     private void big(int inputs, int nets, int outputs) {
         for (int i = 0; i < inputs; i++) {
-            call("input");
+            build("input");
         }
         for (int i = inputs; i < nets; i++) {
-            call("gate", random.nextInt(7), drawNet(), drawNet());
+            build("gate", random.nextInt(7), drawNet(), drawNet());
         }
         for (int i = 0; i < outputs; i++) {
-            call("output", drawNet());
+            build("output", drawNet());
         }
         askAll();
     }

@@ -11,38 +11,6 @@ public final class PromiseTest {
     private PromiseTest() {
     }
 
-    private static FaultSearch withInputs(int many) {
-        FaultSearch x = new FaultSearch();
-        for (int i = 0; i < many; i++) {
-            x.input();
-        }
-        return x;
-    }
-
-    /** Inputs 0 and 1, net 2 a gate of both, an output. */
-    private static FaultSearch oneGate(int kind) {
-        FaultSearch x = withInputs(2);
-        x.gate(kind, 0, 1);
-        x.output(2);
-        return x;
-    }
-
-    /**
-     * Inputs 0, 1, 2; 3 = 0 AND 1; 4 = NOT 0; 5 = 4 AND 2; 6 = 1 AND 2; 7 = 3 OR 5; 8 = 7 OR 6, an output.
-     * Net 6 is needed by no assignment: stuck at 0 it is never shown.
-     */
-    private static FaultSearch chooser() {
-        FaultSearch x = withInputs(3);
-        x.gate(0, 0, 1);
-        x.gate(5, 0, NONE);
-        x.gate(0, 4, 2);
-        x.gate(0, 1, 2);
-        x.gate(1, 3, 5);
-        x.gate(1, 7, 6);
-        x.output(8);
-        return x;
-    }
-
     private static void counts(String when, FaultSearch x, int... due) {
         for (int what = 0; what < due.length; what++) {
             CHECK.is(when + " count(" + what + ")", x.count(what), due[what]);
@@ -99,7 +67,8 @@ public final class PromiseTest {
     }
 
     /** Brings a state with found classes and a run, to see that a refused call leaves it as it is. */
-    private static void unchangedBy(String call, Class<? extends RuntimeException> due, FaultSearch x, Runnable refused) {
+    private static void unchangedBy(
+            String call, Class<? extends RuntimeException> due, FaultSearch x, Runnable refused) {
         x.reset();
         int tests = x.run();
         int found = x.count(3);
@@ -114,7 +83,7 @@ public final class PromiseTest {
     private static void newObject1() {
         CHECK.is("NONE", FaultSearch.NONE, -1);
         isEmpty("new:", new FaultSearch());
-        FaultSearch used = oneGate(0);
+        FaultSearch used = Chips.oneGate(0);
         isEmpty("new beside a used one:", new FaultSearch());
         CHECK.is("count(0) of the used one", used.count(0), 3);
     }
@@ -133,7 +102,7 @@ public final class PromiseTest {
         x.output(10);
         unchangedBy("11th input()", STATE, x, x::input);
 
-        FaultSearch full = withInputs(1);
+        FaultSearch full = Chips.withInputs(1);
         for (int i = 1; i < 100; i++) {
             full.gate(6, i - 1, 0);
         }
@@ -145,13 +114,13 @@ public final class PromiseTest {
         // Bit 2 * b + a of the number is the kind's value.
         int[] truth = {0b1000, 0b1110, 0b0110, 0b0111, 0b0001, 0b0101, 0b1010};
         for (int kind = 0; kind < 7; kind++) {
-            FaultSearch x = oneGate(kind);
+            FaultSearch x = Chips.oneGate(kind);
             for (int assignment = 0; assignment < 4; assignment++) {
                 CHECK.is("kind " + kind + " in " + assignment, x.value(2, assignment), truth[kind] >> assignment & 1);
             }
         }
         gateRefusals();
-        FaultSearch x = withInputs(1);
+        FaultSearch x = Chips.withInputs(1);
         CHECK.is("gate(5, 0, 99)", x.gate(5, 0, 99), 1);
         CHECK.is("gate(6, 0, -7)", x.gate(6, 0, -7), 2);
         CHECK.is("gate(2, 1, 1)", x.gate(2, 1, 1), 3);
@@ -166,7 +135,7 @@ public final class PromiseTest {
     }
 
     private static void gateRefusals() {
-        FaultSearch x = oneGate(0);
+        FaultSearch x = Chips.oneGate(0);
         unchangedBy("gate(0, 3, 0)", INDEX, x, () -> x.gate(0, 3, 0));
         unchangedBy("gate(0, 0, 3)", INDEX, x, () -> x.gate(0, 0, 3));
         unchangedBy("gate(7, 0, 1)", ARGUMENT, x, () -> x.gate(7, 0, 1));
@@ -183,7 +152,7 @@ public final class PromiseTest {
     }
 
     private static void output4() {
-        FaultSearch x = oneGate(0);
+        FaultSearch x = Chips.oneGate(0);
         CHECK.is("output(2) once more", x.output(2), 1);
         CHECK.is("output(0), an input's", x.output(0), 2);
         unchangedBy("output(3)", INDEX, x, () -> x.output(3));
@@ -201,7 +170,7 @@ public final class PromiseTest {
     }
 
     private static void value5() {
-        FaultSearch x = chooser();
+        FaultSearch x = Chips.chooser();
         for (int assignment = -16; assignment < 16; assignment++) {
             int chosen = (assignment & 1) == 1 ? assignment >> 1 & 1 : assignment >> 2 & 1;
             CHECK.is("value(8, " + assignment + ")", x.value(8, assignment), chosen);
@@ -213,9 +182,9 @@ public final class PromiseTest {
         for (int wrong : WRONG_NUMBERS) {
             CHECK.refuses("value(" + wrong + ", 0)", INDEX, () -> x.value(wrong, 0));
         }
-        FaultSearch ten = withInputs(10);
+        FaultSearch ten = Chips.withInputs(10);
         for (int net = 0; net < 10; net++) {
-            for (int assignment = 0; assignment < 1024; assignment += 31) {
+            for (int assignment = 0; assignment < 1024; assignment += 93) {
                 CHECK.is("value(" + net + ", " + assignment + ")", ten.value(net, assignment), assignment >> net & 1);
                 CHECK.is("with bit 10", ten.value(net, assignment + 1024), assignment >> net & 1);
             }
@@ -227,14 +196,14 @@ public final class PromiseTest {
         // net 0, pin 0 and net 2 make two classes; input 1 is taken by none and has two of its own.
         int[] due = {4, 4, 6, 4, 4, 4, 4};
         for (int kind = 0; kind < 7; kind++) {
-            CHECK.is("faults() of kind " + kind, oneGate(kind).faults(), due[kind]);
+            CHECK.is("faults() of kind " + kind, Chips.oneGate(kind).faults(), due[kind]);
         }
-        FaultSearch x = withInputs(1);
+        FaultSearch x = Chips.withInputs(1);
         CHECK.is("faults() of one input", x.faults(), 2);
         x.gate(0, 0, 0);
         // Taken by two pins: net 0 stays apart; the pins stuck at 0 are one with net 1 stuck at 0.
         CHECK.is("faults() with a net at both pins", x.faults(), 6);
-        FaultSearch wide = withInputs(1);
+        FaultSearch wide = Chips.withInputs(1);
         for (int net = 1; net < 100; net++) {
             wide.gate(2, 0, 0);
         }
@@ -242,12 +211,12 @@ public final class PromiseTest {
     }
 
     private static void fault7() {
-        FaultSearch x = oneGate(0);
+        FaultSearch x = Chips.oneGate(0);
         fault(x, 0, 0, NONE, 0, 5);
         fault(x, 1, 0, NONE, 1, 2);
         fault(x, 2, 1, NONE, 1, 2);
         fault(x, 3, 2, NONE, 1, 1);
-        FaultSearch twice = withInputs(1);
+        FaultSearch twice = Chips.withInputs(1);
         twice.gate(4, 0, 0);
         twice.output(1);
         fault(twice, 0, 0, NONE, 0, 1);
@@ -271,7 +240,7 @@ public final class PromiseTest {
             {0, 1, NONE, NONE, 1, 0}, {0, 1, NONE, NONE, 0, 1}
         };
         for (int kind = 0; kind < 7; kind++) {
-            FaultSearch x = oneGate(kind);
+            FaultSearch x = Chips.oneGate(kind);
             for (int v = 0; v < 2; v++) {
                 int at = v;
                 String where = "kind " + kind + " at " + v;
@@ -288,7 +257,7 @@ public final class PromiseTest {
             }
         }
         classOfChain();
-        FaultSearch x = oneGate(0);
+        FaultSearch x = Chips.oneGate(0);
         unchangedBy("classOf(0, 0, 0)", INDEX, x, () -> x.classOf(0, 0, 0));
         CHECK.refuses("classOf(3, NONE, 0)", INDEX, () -> x.classOf(3, NONE, 0));
         CHECK.refuses("classOf(2, 2, 0)", INDEX, () -> x.classOf(2, 2, 0));
@@ -302,7 +271,7 @@ public final class PromiseTest {
 
     /** 99 NOTs behind one another: two classes over all of them. */
     private static void classOfChain() {
-        FaultSearch x = withInputs(1);
+        FaultSearch x = Chips.withInputs(1);
         for (int net = 1; net < 100; net++) {
             x.gate(5, net - 1, 0);
         }
@@ -319,20 +288,20 @@ public final class PromiseTest {
     }
 
     private static void test9() {
-        classTests(oneGate(0), 3, 2, 1, 0);
-        classTests(oneGate(1), 1, 0, 2, 1);
-        classTests(oneGate(2), 1, 0, 2, 0, 1, 0);
-        FaultSearch x = chooser();
+        classTests(Chips.oneGate(0), 3, 2, 1, 0);
+        classTests(Chips.oneGate(1), 1, 0, 2, 1);
+        classTests(Chips.oneGate(2), 1, 0, 2, 0, 1, 0);
+        FaultSearch x = Chips.chooser();
         CHECK.is("test of net 6 stuck at 0", x.test(x.classOf(6, NONE, 0)), NONE);
         CHECK.is("test of net 6 stuck at 1", x.test(x.classOf(6, NONE, 1)), 0);
         CHECK.is("test of input 0 stuck at 0", x.test(x.classOf(0, NONE, 0)), 3);
         CHECK.is("test of input 0 stuck at 1", x.test(x.classOf(0, NONE, 1)), 2);
         CHECK.is("test of input 1 stuck at 1", x.test(x.classOf(1, NONE, 1)), 1);
-        FaultSearch blind = withInputs(1);
+        FaultSearch blind = Chips.withInputs(1);
         classTests(blind, NONE, NONE);
         blind.output(0);
         classTests(blind, 1, 0);
-        FaultSearch ten = withInputs(10);
+        FaultSearch ten = Chips.withInputs(10);
         for (int net = 10; net < 19; net++) {
             ten.gate(0, net == 10 ? 0 : net - 1, net - 9);
         }
@@ -356,9 +325,10 @@ public final class PromiseTest {
     }
 
     private static void shows10() {
-        FaultSearch x = oneGate(0);
+        FaultSearch x = Chips.oneGate(0);
         boolean[][] due = {
-            {false, false, false, true}, {false, false, true, false}, {false, true, false, false}, {true, true, true, false}
+            {false, false, false, true}, {false, false, true, false},
+            {false, true, false, false}, {true, true, true, false}
         };
         for (int k = 0; k < 4; k++) {
             for (int assignment = -8; assignment < 8; assignment++) {
@@ -372,7 +342,7 @@ public final class PromiseTest {
         x.output(3);
         CHECK.is("shows(3, 0) with two outputs", x.shows(3, 0), true);
         // A net that meets itself in a XOR can't be seen there, one pin of it can.
-        FaultSearch met = withInputs(1);
+        FaultSearch met = Chips.withInputs(1);
         met.gate(2, 0, 0);
         met.output(1);
         CHECK.is("shows(1, class of net 0 at 0)", met.shows(1, met.classOf(0, NONE, 0)), false);
@@ -382,17 +352,17 @@ public final class PromiseTest {
     }
 
     private static void shown11() {
-        FaultSearch x = oneGate(0);
+        FaultSearch x = Chips.oneGate(0);
         int[] due = {1, 1, 1, 3};
         for (int k = 0; k < 4; k++) {
             CHECK.is("shown(" + k + ")", x.shown(k), due[k]);
         }
         x.input();
         CHECK.is("shown(3) with an input that does nothing", x.shown(x.classOf(2, NONE, 1)), 6);
-        FaultSearch blind = withInputs(2);
+        FaultSearch blind = Chips.withInputs(2);
         CHECK.is("shown(0) without outputs", blind.shown(0), 0);
         for (int inputs = 1; inputs <= 10; inputs++) {
-            FaultSearch many = withInputs(inputs);
+            FaultSearch many = Chips.withInputs(inputs);
             many.output(0);
             CHECK.is("shown(0) of " + inputs + " inputs", many.shown(0), 1 << (inputs - 1));
             CHECK.is("shown(1) of " + inputs + " inputs", many.shown(1), 1 << (inputs - 1));
@@ -401,7 +371,7 @@ public final class PromiseTest {
     }
 
     private static void run12() {
-        FaultSearch x = oneGate(0);
+        FaultSearch x = Chips.oneGate(0);
         CHECK.is("run()", x.run(), 3);
         patterns("run", x, 3, 2, 1);
         CHECK.is("count(3)", x.count(3), 4);
@@ -412,7 +382,7 @@ public final class PromiseTest {
         x.simulate(2);
         CHECK.is("run() when 2 was simulated", x.run(), 2);
         patterns("run behind simulate(2)", x, 3, 1);
-        FaultSearch choice = chooser();
+        FaultSearch choice = Chips.chooser();
         int tests = choice.run();
         CHECK.is("found and untestable are all", choice.count(3) + choice.count(5), choice.faults());
         CHECK.is("count(5)", choice.count(5), 1);
@@ -427,7 +397,7 @@ public final class PromiseTest {
     }
 
     private static void pattern13() {
-        FaultSearch x = oneGate(2);
+        FaultSearch x = Chips.oneGate(2);
         patterns("before a run", x);
         x.run();
         patterns("of a XOR", x, 1, 0, 2);
@@ -451,7 +421,7 @@ public final class PromiseTest {
     }
 
     private static void simulate14() {
-        FaultSearch x = oneGate(0);
+        FaultSearch x = Chips.oneGate(0);
         CHECK.is("simulate(0)", x.simulate(0), 1);
         CHECK.is("simulate(0) again", x.simulate(0), 0);
         CHECK.is("simulate(1)", x.simulate(1), 1);
@@ -472,7 +442,7 @@ public final class PromiseTest {
     }
 
     private static void left15() {
-        FaultSearch x = oneGate(0);
+        FaultSearch x = Chips.oneGate(0);
         left("at first", x, 0, 1, 2, 3);
         x.simulate(2);
         left("behind simulate(2)", x, 0, 2);
@@ -481,13 +451,13 @@ public final class PromiseTest {
         CHECK.refuses("left(MIN)", INDEX, () -> x.left(Integer.MIN_VALUE));
         x.run();
         left("behind run()", x);
-        FaultSearch blind = withInputs(1);
+        FaultSearch blind = Chips.withInputs(1);
         blind.run();
         left("without outputs", blind, 0, 1);
     }
 
     private static void reset16() {
-        FaultSearch x = oneGate(0);
+        FaultSearch x = Chips.oneGate(0);
         x.run();
         x.reset();
         CHECK.is("count(3)", x.count(3), 0);
@@ -500,7 +470,7 @@ public final class PromiseTest {
     }
 
     private static void slow17() {
-        FaultSearch x = oneGate(0);
+        FaultSearch x = Chips.oneGate(0);
         int[][] due = {
             // net, v, before, shows
             {0, 0, 1, 2}, {0, 1, 0, 3}, {1, 0, 2, 1}, {1, 1, 0, 3}, {2, 0, 3, 0}, {2, 1, 0, 3}
@@ -509,7 +479,7 @@ public final class PromiseTest {
             CHECK.is("slow(" + row[0] + ", " + row[1] + ", 0)", x.slow(row[0], row[1], 0), row[2]);
             CHECK.is("slow(" + row[0] + ", " + row[1] + ", 1)", x.slow(row[0], row[1], 1), row[3]);
         }
-        FaultSearch fixed = withInputs(1);
+        FaultSearch fixed = Chips.withInputs(1);
         fixed.gate(2, 0, 0);
         fixed.output(1);
         // Net 1 is always 0: stuck at 1 it is shown, but it is never 1 before; stuck at 0 it is never shown.
@@ -526,7 +496,7 @@ public final class PromiseTest {
             CHECK.refuses("slow(0, " + wrong + ", 0)", INDEX, () -> x.slow(0, wrong, 0));
             CHECK.refuses("slow(0, 0, " + wrong + ")", INDEX, () -> x.slow(0, 0, wrong));
         }
-        FaultSearch ten = withInputs(10);
+        FaultSearch ten = Chips.withInputs(10);
         ten.gate(0, 8, 9);
         ten.output(10);
         CHECK.is("slow(10, 0, 0) of ten inputs", ten.slow(10, 0, 0), 768);
@@ -534,7 +504,7 @@ public final class PromiseTest {
     }
 
     private static void count18() {
-        FaultSearch x = oneGate(0);
+        FaultSearch x = Chips.oneGate(0);
         x.input();
         counts("at first", x, 4, 3, 1, 0, 0, 2);
         x.run();
@@ -550,7 +520,7 @@ public final class PromiseTest {
     }
 
     private static void clear19() {
-        FaultSearch x = chooser();
+        FaultSearch x = Chips.chooser();
         x.run();
         x.clear();
         isEmpty("cleared:", x);
