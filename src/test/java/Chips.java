@@ -49,6 +49,22 @@ final class Chips {
         return x;
     }
 
+    /**
+     * Inputs 0, 1, 2; 3 = 0 XOR 1; 4 = 3 XOR 2, the sum; 5 = 0 AND 1; 6 = 3 AND 2; 7 = 5 OR 6, the carry;
+     * outputs 4 and 7.
+     */
+    static FaultSearch adder() {
+        FaultSearch x = withInputs(3);
+        x.gate(2, 0, 1);
+        x.gate(2, 3, 2);
+        x.gate(0, 0, 1);
+        x.gate(0, 3, 2);
+        x.gate(1, 5, 6);
+        x.output(4);
+        x.output(7);
+        return x;
+    }
+
     /** The first inputs, then copies each of the net before it, up to so many nets. */
     static FaultSearch copies(int inputs, int nets) {
         FaultSearch x = withInputs(inputs);

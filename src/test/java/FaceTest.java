@@ -36,6 +36,9 @@ public final class FaceTest {
         "currentTime", "nanoTime", "Thread", "Random", "hashCode", "Exact"
     };
 
+    private static final List<String> CONSTANTS = List.of(
+        "int", "long", "boolean", "char", "String", "int[]", "long[]", "char[]", "byte[]");
+
     private static final Check CHECK = new Check("FaceTest");
 
     private FaceTest() {
@@ -60,17 +63,46 @@ public final class FaceTest {
         for (Constructor<?> constructor : face.getDeclaredConstructors()) {
             CHECK.same("constructor", plain(constructor), "public FaultSearch()");
         }
-        for (Field field : face.getDeclaredFields()) {
-            if (!Modifier.isPrivate(field.getModifiers())) {
-                CHECK.same("field", plain(field), "public static final int NONE");
-            }
-            CHECK.is(field + " final if static", fits(field), true);
-        }
+        fields(face);
         privateNames(face, names);
     }
 
-    private static boolean fits(Field field) {
-        return !Modifier.isStatic(field.getModifiers()) || Modifier.isFinal(field.getModifiers());
+    private static void fields(Class<?> face) {
+        List<String> seen = new ArrayList<>();
+        for (Field field : face.getDeclaredFields()) {
+            if (!Modifier.isPrivate(field.getModifiers())) {
+                seen.add(plain(field));
+            }
+        }
+        CHECK.same("fields", seen.toString(), "[public static final int NONE]");
+        CHECK.same("superclass", face.getSuperclass().getName(), "java.lang.Object");
+        CHECK.is("interfaces", face.getInterfaces().length, 0);
+    }
+
+    /** What rules 5 and 11 say of the class and of each class inside. */
+    private static void rules(Class<?> of) {
+        int fields = 0;
+        for (Field field : of.getDeclaredFields()) {
+            if (Modifier.isStatic(field.getModifiers())) {
+                CHECK.is(field + " is final", Modifier.isFinal(field.getModifiers()), true);
+                CHECK.is(field + " is a constant", CONSTANTS.contains(field.getType().getSimpleName()), true);
+            } else {
+                fields++;
+            }
+        }
+        CHECK.is(of + " has some twenty fields", fields <= 20, true);
+        for (Method method : of.getDeclaredMethods()) {
+            CHECK.is(method + " takes at most seven", method.getParameterCount() <= 7, true);
+        }
+    }
+
+    private static void rulesOfAll() {
+        Class<?>[] inside = FaultSearch.class.getDeclaredClasses();
+        CHECK.is("some twelve classes", inside.length <= 11, true);
+        rules(FaultSearch.class);
+        for (Class<?> of : inside) {
+            rules(of);
+        }
     }
 
     private static void privateNames(Class<?> face, TreeSet<String> names) {
@@ -82,7 +114,6 @@ public final class FaceTest {
         for (Class<?> inside : face.getDeclaredClasses()) {
             CHECK.is(inside + " is static", Modifier.isStatic(inside.getModifiers()), true);
             CHECK.is(inside + " is not public", Modifier.isPublic(inside.getModifiers()), false);
-            CHECK.is(inside + " has some twenty fields", inside.getDeclaredFields().length <= 20, true);
             for (Method method : inside.getDeclaredMethods()) {
                 CHECK.is(method + " has a name of the face", names.contains(method.getName()), false);
             }
@@ -98,6 +129,7 @@ public final class FaceTest {
 
     public static void main(String[] args) throws IOException {
         members();
+        rulesOfAll();
         source(Path.of(args.length > 0 ? args[0] : "src/main/java/FaultSearch.java"));
         CHECK.end();
     }

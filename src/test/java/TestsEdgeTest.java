@@ -435,6 +435,23 @@ public final class TestsEdgeTest {
         FaultSearch choice = Chips.chooser();
         pair(choice, 6, 1, NONE, NONE);
         pair(choice, 6, 0, 6, 0);
+        slowStill();
+    }
+
+    /** Net 1 is 0 and net 2 is 1 in every assignment: all are looked at, however many, and none behind the last. */
+    private static void slowStill() {
+        FaultSearch x = Chips.metItself(XOR);
+        x.gate(5, 1, NONE);
+        x.output(2);
+        for (int inputs = 1; inputs <= 10; inputs++) {
+            for (int v = 0; v < 2; v++) {
+                pair(x, 1, v, NONE, NONE);
+                pair(x, 2, v, NONE, NONE);
+            }
+            if (inputs < 10) {
+                x.input();
+            }
+        }
     }
 
     private static void slowWrong() {
